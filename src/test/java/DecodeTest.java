@@ -5,6 +5,7 @@ public final class DecodeTest {
         slicesComeTogether(check);
         signs(check);
         wordsOfAllBits(check);
+        eachOperandHasItsSign(check);
         encodedIsDecoded(check);
         wrongArguments(check);
         notWhole(check);
@@ -52,6 +53,30 @@ public final class DecodeTest {
         x.slice(0, 1, 31, 0);
         check.due("the upper half with sign", () -> x.decode(0, 0, -1), -1);
         check.due("the lower half without", () -> x.decode(0, 1, -1), 0xFFFFFFFFL);
+    }
+
+    private static void eachOperandHasItsSign(Check check) {
+        SliceCoder each = new SliceCoder();
+        for (int k = 0; k < 6; k++) {
+            each.operand(0, k, k + 1, true);
+            each.slice(0, k, k, 0);
+        }
+        for (int k = 0; k < 6; k++) {
+            int operand = k;
+            long least = 1L << k;
+            check.due("-1 of operand " + k, () -> each.decode(0, operand, (1L << 21) - 1), -1);
+            check.due("the least of operand " + k,
+                    () -> each.decode(0, operand, least << lowerBits(operand)), -least);
+        }
+    }
+
+    /** How many bits stand below operand k where operands 0 to 5 have 1 to 6 bits. */
+    private static int lowerBits(int k) {
+        int below = 0;
+        for (int later = k + 1; later < 6; later++) {
+            below += later + 1;
+        }
+        return below;
     }
 
     private static void encodedIsDecoded(Check check) {

@@ -85,6 +85,12 @@ public final class EncodeTest {
         tooFar(check, 5, -1);
         tooFar(check, 5, 16);
         tooFar(check, 5, Long.MIN_VALUE);
+        SliceCoder bit = Samples.single(0, 0, 1, false);
+        bit.number(0, 2);
+        check.due("2 in one bit", () -> bit.encode(0), Check.ARITHMETIC);
+        SliceCoder signBit = Samples.single(0, 5, 1, true);
+        signBit.number(5, 1);
+        check.due("1 in one bit with sign", () -> signBit.encode(0), Check.ARITHMETIC);
     }
 
     private static void tooFar(Check check, int k, long v) {

@@ -111,6 +111,10 @@ public final class SliceTest {
                     x -> x.slice(1, 2, range[0], range[1]), Check.STATE);
         }
         check.refused(Samples::mixed, "slice(0, 5, 0, 0)", x -> x.slice(0, 5, 0, 0), Check.STATE);
+        check.refused(() -> Samples.single(0, 0, 4, false), "the first bit of the word once more",
+                x -> x.slice(0, 0, 3, 3), Check.STATE);
+        check.refused(() -> Samples.single(0, 0, 4, false), "the last bit of the word once more",
+                x -> x.slice(0, 0, 0, 0), Check.STATE);
         SliceCoder x = Samples.mixed();
         x.operand(1, 0, 7, false);
         check.due("the same bits of another operand", () -> x.slice(1, 0, 6, 5), 6);
