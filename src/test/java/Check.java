@@ -37,11 +37,31 @@ final class Check {
         due(what, answer(call), due);
     }
 
-    /** The call throws, and leaves an object that can't be told from one without the call. */
+    /** The call throws, and every answer after it is as if it had not been made. */
     void refused(Supplier<SliceCoder> made, String what, Consumer<SliceCoder> call, String due) {
-        SliceCoder tried = made.get();
-        due(what, () -> { call.accept(tried); return "nothing thrown"; }, due);
-        due("what is there after " + what, Snapshot.of(tried), Snapshot.of(made.get()));
+        due(what, answerOf(call, made.get()), due);
+        leavesAll(made, what, call);
+    }
+
+    /** What the object shows after the call is what it shows without it. */
+    void leavesAll(Supplier<SliceCoder> made, String what, Consumer<SliceCoder> call) {
+        Supplier<SliceCoder> after = () -> {
+            SliceCoder x = made.get();
+            answerOf(call, x);
+            return x;
+        };
+        String[] got = Snapshot.of(after).split("\n");
+        String[] due = Snapshot.of(made).split("\n");
+        for (int i = 0; i < due.length; i++) {
+            due("what is there after " + what, got[i], due[i]);
+        }
+    }
+
+    static String answerOf(Consumer<SliceCoder> call, SliceCoder x) {
+        return answer(() -> {
+            call.accept(x);
+            return "nothing thrown";
+        });
     }
 
     void end() {

@@ -1,3 +1,5 @@
+import java.util.function.Supplier;
+
 /** Promise 11. */
 public final class DecodeTest {
     public static void main(String[] args) {
@@ -10,6 +12,9 @@ public final class DecodeTest {
         wrongArguments(check);
         notWhole(check);
         wordsOfAnotherForm(check);
+        eachBitThatIsWrong(check);
+        oneBitMissing(check);
+        numbersDoNotCount(check);
         check.end();
     }
 
@@ -91,6 +96,7 @@ public final class DecodeTest {
         }
     }
 
+    /** 'IllegalArgumentException: form, it is none'. */
     private static void wrongArguments(Check check) {
         for (int form : Check.WRONG_FORMS) {
             check.refused(Samples::mixed, "decode(" + form + ", 0, 98099)",
@@ -110,6 +116,7 @@ public final class DecodeTest {
                 x -> x.decode(3, 0, 0), Check.ARGUMENT);
     }
 
+    /** 'IllegalStateException: it is not WHOLE'. */
     private static void notWhole(Check check) {
         check.refused(Samples::mixed, "decode(1, 2, 4)", x -> x.decode(1, 2, 4), Check.STATE);
         check.refused(Samples::mixed, "decode(1, 2, 0), not whole before the word",
@@ -118,11 +125,55 @@ public final class DecodeTest {
                 x -> x.decode(2, 0, 0x16A5A), Check.STATE);
     }
 
+    /** 'ArithmeticException: the WORD is not of it'. */
     private static void wordsOfAnotherForm(Check check) {
         for (long word : new long[] {0, -1, 98099 ^ 8, 98099 ^ (1 << 14), 98099 + (1 << 17),
             98099 + Long.MIN_VALUE}) {
             check.refused(Samples::mixed, "decode(0, 0, " + word + ")",
                     x -> x.decode(0, 0, word), Check.ARITHMETIC);
         }
+    }
+
+    /** 101 aaaaa bbbb 10 aaa: a wrong bit in each fixed place and in each beyond the length. */
+    private static void eachBitThatIsWrong(Check check) {
+        for (int place = 0; place < 64; place++) {
+            long word = 98099 ^ 1L << place;
+            boolean free = place < 14 && place != 3 && place != 4;
+            String due = free ? "nothing thrown" : Check.ARITHMETIC;
+            for (int k : new int[] {0, 5}) {
+                check.due("98099 with bit " + place + " changed, operand " + k,
+                        Check.answerOf(x -> x.decode(0, k, word), Samples.mixed()), due);
+                check.leavesAll(Samples::mixed, "decode(0, " + k + ", " + word + ")",
+                        x -> x.decode(0, k, word));
+            }
+        }
+    }
+
+    /** All bits but one are in the word, of the operand that is asked for or of another. */
+    private static void oneBitMissing(Check check) {
+        Supplier<SliceCoder> made = () -> {
+            SliceCoder x = new SliceCoder();
+            x.operand(0, 0, 2, false);
+            x.operand(0, 1, 2, false);
+            x.slice(0, 0, 1, 0);
+            x.slice(0, 1, 1, 1);
+            return x;
+        };
+        check.refused(made, "decode of the one that lacks a bit", x -> x.decode(0, 1, 7), Check.STATE);
+        check.refused(made, "decode of the other", x -> x.decode(0, 0, 7), Check.STATE);
+        SliceCoder x = made.get();
+        x.slice(0, 1, 0, 0);
+        check.due("the one when it is whole", () -> x.decode(0, 1, 0b1001), 1);
+        check.due("the other then", () -> x.decode(0, 0, 0b1001), 2);
+    }
+
+    /** What encode() would take makes no difference, even where it does not fit. */
+    private static void numbersDoNotCount(Check check) {
+        SliceCoder x = Samples.mixed();
+        x.number(0, Long.MAX_VALUE);
+        x.number(5, Long.MIN_VALUE);
+        check.due("a", () -> x.decode(0, 0, 98099), -5);
+        check.due("b", () -> x.decode(0, 5, 98099), 9);
+        check.due("and it takes none of them", () -> x.encode(0), Check.ARITHMETIC);
     }
 }

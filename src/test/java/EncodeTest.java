@@ -10,6 +10,10 @@ public final class EncodeTest {
         wrongArguments(check);
         notWhole(check);
         numbersThatDoNotFit(check);
+        noBits(check);
+        fixedBitsAlone(check);
+        everyWidthToItsEdges(check);
+        eachOperandIsLookedAt(check);
         check.end();
     }
 
@@ -60,12 +64,14 @@ public final class EncodeTest {
         check.due("numbers of operands that are not there", () -> x.encode(0), 98099);
     }
 
+    /** 'IllegalArgumentException: form'. */
     private static void wrongArguments(Check check) {
         for (int form : Check.WRONG_FORMS) {
             check.refused(Samples::mixed, "encode(" + form + ")", x -> x.encode(form), Check.ARGUMENT);
         }
     }
 
+    /** 'IllegalStateException: it is not WHOLE'. */
     private static void notWhole(Check check) {
         check.refused(Samples::mixed, "encode(1)", x -> x.encode(1), Check.STATE);
         check.refused(Samples::mixed, "encode(2)", x -> x.encode(2), Check.STATE);
@@ -78,6 +84,7 @@ public final class EncodeTest {
                 x -> x.encode(1), Check.STATE);
     }
 
+    /** 'ArithmeticException: a number does not fit'. */
     private static void numbersThatDoNotFit(Check check) {
         tooFar(check, 0, -129);
         tooFar(check, 0, 128);
@@ -100,5 +107,79 @@ public final class EncodeTest {
             return x;
         };
         check.refused(made, "encode(0), number " + k + " being " + v, x -> x.encode(0), Check.ARITHMETIC);
+    }
+
+    /** '(of no bits: 0)', whatever the numbers are. */
+    private static void noBits(Check check) {
+        SliceCoder x = new SliceCoder();
+        for (int form = 0; form < 8; form++) {
+            int f = form;
+            check.due("no bits in form " + f, () -> x.encode(f), 0);
+        }
+        for (int k = 0; k < 6; k++) {
+            x.number(k, Long.MIN_VALUE + k);
+        }
+        check.due("no bits, numbers that fit nowhere", () -> x.encode(7), 0);
+        check.refused(() -> {
+            SliceCoder y = new SliceCoder();
+            y.operand(7, 5, 1, false);
+            return y;
+        }, "no bits, but an operand", y -> y.encode(7), Check.STATE);
+    }
+
+    private static void fixedBitsAlone(Check check) {
+        for (int n : new int[] {1, 63, 64}) {
+            SliceCoder x = new SliceCoder();
+            x.fixed(0, n, -1);
+            x.number(0, Long.MAX_VALUE);
+            check.due(n + " fixed ones", () -> x.encode(0), -1L >>> (64 - n));
+            x.clear(0);
+            x.fixed(0, n, 0);
+            check.due(n + " fixed zeros", () -> x.encode(0), 0);
+        }
+    }
+
+    /** The last number that fits and the first that does not, at both ends. */
+    private static void everyWidthToItsEdges(Check check) {
+        for (int n = 1; n <= 63; n++) {
+            long all = -1L >>> (64 - n);
+            long top = 1L << (n - 1);
+            String bits = " in " + n + " bits";
+            SliceCoder plain = Samples.single(0, 0, n, false);
+            numberGives(check, plain, "0" + bits, 0, 0L);
+            numberGives(check, plain, "the greatest" + bits, all, all);
+            numberGives(check, plain, "one more" + bits, all + 1, Check.ARITHMETIC);
+            numberGives(check, plain, "-1" + bits, -1, Check.ARITHMETIC);
+            SliceCoder signed = Samples.single(0, 0, n, true);
+            numberGives(check, signed, "the least, with sign," + bits, -top, top);
+            numberGives(check, signed, "one less, with sign," + bits, -top - 1, Check.ARITHMETIC);
+            numberGives(check, signed, "the greatest, with sign," + bits, top - 1, top - 1);
+            numberGives(check, signed, "one more, with sign," + bits, top, Check.ARITHMETIC);
+        }
+    }
+
+    private static void numberGives(Check check, SliceCoder x, String what, long v, Object due) {
+        x.number(0, v);
+        check.due(what, () -> x.encode(0), due);
+    }
+
+    /** One of six numbers does not fit, each in its turn, and the others do. */
+    private static void eachOperandIsLookedAt(Check check) {
+        for (int k = 0; k < 6; k++) {
+            int wrong = k;
+            Supplier<SliceCoder> made = () -> {
+                SliceCoder x = new SliceCoder();
+                for (int operand = 0; operand < 6; operand++) {
+                    x.operand(7, operand, 2, false);
+                    x.slice(7, operand, 1, 0);
+                    x.number(operand, operand == wrong ? 4 : 3);
+                }
+                return x;
+            };
+            check.refused(made, "number " + k + " alone does not fit", x -> x.encode(7), Check.ARITHMETIC);
+            SliceCoder x = made.get();
+            x.number(wrong, 3);
+            check.due("all six fit", () -> x.encode(7), 4095);
+        }
     }
 }

@@ -8,11 +8,16 @@ public final class FitsTest {
             edges(check, n, false);
             edges(check, n, true);
         }
+        oneBit(check);
+        sixtyThreeBits(check);
+        sixtyFourBits(check);
         formAndOperand(check);
+        inTheWordOrNot(check);
         wrongArguments(check);
         check.end();
     }
 
+    /** 'from 0 on (with sign: from -2 ** (n - 1) on), below 2 ** n (2 ** (n - 1))'. */
     private static void edges(Check check, int n, boolean sign) {
         SliceCoder x = new SliceCoder();
         x.operand(0, 0, n, sign);
@@ -26,6 +31,66 @@ public final class FitsTest {
             boolean due = n == 64 || exact.compareTo(low) >= 0 && exact.compareTo(end) < 0;
             check.due("fits " + v + " in " + n + " bits, sign " + sign, x.fits(0, 0, v), due);
         }
+    }
+
+    private static void oneBit(Check check) {
+        SliceCoder x = new SliceCoder();
+        x.operand(0, 0, 1, false);
+        x.operand(0, 1, 1, true);
+        for (int v = -3; v <= 3; v++) {
+            check.due(v + " in one bit", x.fits(0, 0, v), v == 0 || v == 1);
+            check.due(v + " in one bit with sign", x.fits(0, 1, v), v == 0 || v == -1);
+        }
+    }
+
+    /** The widest that has numbers that do not fit. */
+    private static void sixtyThreeBits(Check check) {
+        SliceCoder x = new SliceCoder();
+        x.operand(0, 0, 63, false);
+        x.operand(0, 1, 63, true);
+        long half = 1L << 62;
+        check.due("the most in 63 bits", x.fits(0, 0, Long.MAX_VALUE), true);
+        check.due("-1 in 63 bits", x.fits(0, 0, -1), false);
+        check.due("the least long in 63 bits", x.fits(0, 0, Long.MIN_VALUE), false);
+        check.due("2 ** 62 - 1 in 63 bits with sign", x.fits(0, 1, half - 1), true);
+        check.due("2 ** 62 in 63 bits with sign", x.fits(0, 1, half), false);
+        check.due("-2 ** 62 in 63 bits with sign", x.fits(0, 1, -half), true);
+        check.due("-2 ** 62 - 1 in 63 bits with sign", x.fits(0, 1, -half - 1), false);
+    }
+
+    /** 'of 64 bits each one can'. */
+    private static void sixtyFourBits(Check check) {
+        for (boolean sign : new boolean[] {false, true}) {
+            for (int form : new int[] {0, 7}) {
+                for (int k : new int[] {0, 5}) {
+                    SliceCoder x = new SliceCoder();
+                    x.operand(form, k, 64, sign);
+                    for (long v : new long[] {Long.MIN_VALUE, Long.MIN_VALUE + 1, -2, -1, 0, 1,
+                        Long.MAX_VALUE - 1, Long.MAX_VALUE}) {
+                        check.due(v + " in 64 bits, sign " + sign, x.fits(form, k, v), true);
+                    }
+                }
+            }
+        }
+    }
+
+    /** What is in the word makes no difference, nor whether there is room for it. */
+    private static void inTheWordOrNot(Check check) {
+        SliceCoder x = new SliceCoder();
+        x.operand(0, 0, 4, true);
+        fourBitsWithSign(check, x, "not in the word");
+        x.slice(0, 0, 3, 2);
+        fourBitsWithSign(check, x, "in part in the word");
+        x.fixed(0, 62, 0);
+        fourBitsWithSign(check, x, "in part in a full word");
+        fourBitsWithSign(check, Samples.single(0, 0, 4, true), "whole");
+    }
+
+    private static void fourBitsWithSign(Check check, SliceCoder x, String when) {
+        check.due("7, " + when, x.fits(0, 0, 7), true);
+        check.due("8, " + when, x.fits(0, 0, 8), false);
+        check.due("-8, " + when, x.fits(0, 0, -8), true);
+        check.due("-9, " + when, x.fits(0, 0, -9), false);
     }
 
     private static void formAndOperand(Check check) {
@@ -43,6 +108,7 @@ public final class FitsTest {
         check.due("7 whatever number 0 is", x.fits(0, 0, 7), true);
     }
 
+    /** 'IllegalArgumentException: form, it is none'. */
     private static void wrongArguments(Check check) {
         for (int form : Check.WRONG_FORMS) {
             check.refused(Samples::mixed, "fits(" + form + ", 0, 0)",

@@ -7,9 +7,12 @@ public final class FixedTest {
         everyLength(check);
         wrongArguments(check);
         noMoreThanAWord(check);
+        everyLengthAndEveryNext(check);
+        oneTooManyChangesNothing(check);
         check.end();
     }
 
+    /** 'The next n bits of the WORD .., the highest first: how many it has'. */
     private static void piecesFollowOneAnother(Check check) {
         SliceCoder x = new SliceCoder();
         check.due("fixed(0, 3, 6)", () -> x.fixed(0, 3, 6), 3);
@@ -23,6 +26,7 @@ public final class FixedTest {
         check.due("form 0 after form 7", () -> x.encode(0), 0xD2);
     }
 
+    /** 'the n lowest ones of v': those above make no difference. */
     private static void lowestBitsAreTaken(Check check) {
         SliceCoder x = new SliceCoder();
         check.due("fixed(0, 4, -6)", () -> x.fixed(0, 4, -6), 4);
@@ -51,6 +55,7 @@ public final class FixedTest {
         }
     }
 
+    /** 'IllegalArgumentException: form, n is not 1..64'. */
     private static void wrongArguments(Check check) {
         for (int form : Check.WRONG_FORMS) {
             check.refused(Samples::mixed, "fixed(" + form + ", 1, 1)",
@@ -64,6 +69,7 @@ public final class FixedTest {
         }
     }
 
+    /** 'IndexOutOfBoundsException: there would be more than 64'. */
     private static void noMoreThanAWord(Check check) {
         check.refused(Samples::mixed, "fixed(2, 1, 0) of 64 bits", x -> x.fixed(2, 1, 0), Check.INDEX);
         check.refused(Samples::mixed, "fixed(7, 1, 1) of 64 bits", x -> x.fixed(7, 1, 1), Check.INDEX);
@@ -72,5 +78,34 @@ public final class FixedTest {
         SliceCoder x = Samples.mixed();
         check.due("fixed(0, 47, 0) of 17 bits", () -> x.fixed(0, 47, 0), 64);
         check.due("word of these 64", () -> x.encode(0), 98099L << 47);
+    }
+
+    /** 64 is the last length that is taken, 65 the first that is not, from wherever it is reached. */
+    private static void everyLengthAndEveryNext(Check check) {
+        for (int length = 0; length <= 64; length++) {
+            for (int n = 1; n <= 64; n++) {
+                int next = n;
+                SliceCoder x = ones(length);
+                boolean room = length + n <= 64;
+                check.due("fixed(0, " + n + ") of " + length + " bits", () -> x.fixed(0, next, 0),
+                        room ? length + n : Check.INDEX);
+                check.due("bits then", x.count(0, 0), room ? length + n : length);
+            }
+        }
+    }
+
+    private static void oneTooManyChangesNothing(Check check) {
+        for (int length : new int[] {1, 2, 31, 32, 33, 62, 63, 64}) {
+            check.refused(() -> ones(length), "fixed(0, " + (65 - length) + ") of " + length + " bits",
+                    x -> x.fixed(0, 65 - length, 0), Check.INDEX);
+        }
+    }
+
+    private static SliceCoder ones(int length) {
+        SliceCoder x = new SliceCoder();
+        if (length > 0) {
+            x.fixed(0, length, -1);
+        }
+        return x;
     }
 }

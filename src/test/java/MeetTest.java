@@ -12,6 +12,9 @@ public final class MeetTest {
         }
         longForms(check);
         itself(check);
+        emptyForms(check);
+        everyPairOfForms(check);
+        notWhole(check);
         wrongArguments(check);
         check.end();
     }
@@ -50,6 +53,7 @@ public final class MeetTest {
         check.due("a one and no bits", x.meet(6, 4), false);
     }
 
+    /** '(one always meets itself)'. */
     private static void itself(Check check) {
         SliceCoder x = Samples.mixed();
         for (int form = 0; form < 8; form++) {
@@ -57,6 +61,55 @@ public final class MeetTest {
         }
     }
 
+    /** No word but 0 is of a form without bits. */
+    private static void emptyForms(Check check) {
+        SliceCoder x = new SliceCoder();
+        x.fixed(1, 64, 0);
+        x.fixed(2, 64, 1);
+        x.fixed(3, 64, Long.MIN_VALUE);
+        x.operand(4, 0, 64, true);
+        x.operand(5, 0, 64, true);
+        x.slice(5, 0, 63, 0);
+        for (int other : new int[] {0, 1, 4, 5}) {
+            check.due("no bits and form " + other, x.meet(0, other), true);
+            check.due("form " + other + " and no bits", x.meet(other, 0), true);
+        }
+        for (int other : new int[] {2, 3}) {
+            check.due("no bits and form " + other, x.meet(0, other), false);
+            check.due("form " + other + " and no bits", x.meet(other, 0), false);
+            check.due("an operand that is not in the word, and form " + other, x.meet(4, other), false);
+        }
+    }
+
+    /** Form f is the word f / 2, so each meets one other alone. */
+    private static void everyPairOfForms(Check check) {
+        SliceCoder x = new SliceCoder();
+        for (int form = 0; form < 8; form++) {
+            x.fixed(form, 2 + 8 * form - form / 2, form / 2);
+        }
+        for (int a = 0; a < 8; a++) {
+            for (int b = 0; b < 8; b++) {
+                check.due("meet(" + a + ", " + b + ")", x.meet(a, b), a / 2 == b / 2);
+            }
+        }
+    }
+
+    /** Bits of operands that are not in the word make no difference. */
+    private static void notWhole(Check check) {
+        SliceCoder x = new SliceCoder();
+        x.fixed(0, 3, 5);
+        x.operand(1, 0, 8, false);
+        x.slice(1, 0, 7, 6);
+        x.fixed(1, 1, 1);
+        x.operand(2, 0, 8, false);
+        x.slice(2, 0, 0, 0);
+        x.fixed(2, 2, 2);
+        check.due("101 and xx1", x.meet(0, 1), true);
+        check.due("101 and x10", x.meet(0, 2), false);
+        check.due("xx1 and x10", x.meet(1, 2), false);
+    }
+
+    /** 'IllegalArgumentException': the first form, the second, or both. */
     private static void wrongArguments(Check check) {
         for (int form : Check.WRONG_FORMS) {
             check.refused(Samples::mixed, "meet(" + form + ", 0)", x -> x.meet(form, 0), Check.ARGUMENT);

@@ -5,11 +5,15 @@ public final class OperandTest {
         firstAndLastOnes(check);
         operandsAreOfOneForm(check);
         signIsOfOneOperand(check);
+        noneIsInTheWordSoFar(check);
+        fullWordTakesOperands(check);
         wrongArguments(check);
         operandThatIsThere(check);
+        eachOneIsThereOnce(check);
         check.end();
     }
 
+    /** 'An OPERAND of n bits': the first and the last form, operand and n. */
     private static void firstAndLastOnes(Check check) {
         for (int form : new int[] {0, 3, 7}) {
             for (int operand : new int[] {0, 2, 5}) {
@@ -52,6 +56,39 @@ public final class OperandTest {
         check.due("-1 without, another form", x.fits(1, 0, -1), false);
     }
 
+    /** '(none of them is in the WORD so far)': each can be told, whatever stands in the word. */
+    private static void noneIsInTheWordSoFar(Check check) {
+        for (int n : new int[] {1, 2, 31, 32, 33, 61, 62}) {
+            SliceCoder x = new SliceCoder();
+            x.operand(0, 0, 1, false);
+            x.slice(0, 0, 0, 0);
+            x.fixed(0, 1, 1);
+            x.operand(0, 1, n, true);
+            check.due("bits of the word with an operand of " + n, x.count(0, 0), 2);
+            check.due("its bits that are not in it", x.count(0, 3), n);
+            check.due("whole", x.whole(0), false);
+            for (int i = 0; i < n; i++) {
+                int bit = i;
+                check.due("bit " + i + " of " + n, () -> x.slice(0, 1, bit, bit), 3 + i);
+            }
+            check.due("whole when all are told", x.whole(0), true);
+        }
+    }
+
+    /** A word of 64 bits has room for none of its bits, but an operand is no bit of a word. */
+    private static void fullWordTakesOperands(Check check) {
+        SliceCoder x = new SliceCoder();
+        x.fixed(7, 64, 5);
+        for (int k = 0; k < 6; k++) {
+            x.operand(7, k, 64, true);
+            check.due("operands of a full word", x.count(7, 2), k + 1);
+            check.due("bits of these", x.count(7, 3), 64 * (k + 1));
+        }
+        check.due("its bits", x.count(7, 0), 64);
+        check.due("it is not whole", x.whole(7), false);
+    }
+
+    /** 'IllegalArgumentException: form, operand, n is not 1..64'. */
     private static void wrongArguments(Check check) {
         for (int form : Check.WRONG_FORMS) {
             check.refused(Samples::mixed, "operand(" + form + ", 0, 8)",
@@ -69,6 +106,7 @@ public final class OperandTest {
         }
     }
 
+    /** 'IllegalStateException: it is there', whole, in part or not in the word. */
     private static void operandThatIsThere(Check check) {
         check.refused(Samples::mixed, "operand(0, 0, 8, false) again",
                 x -> x.operand(0, 0, 8, false), Check.STATE);
@@ -78,5 +116,22 @@ public final class OperandTest {
                 x -> x.operand(1, 2, 1, false), Check.STATE);
         check.refused(Samples::mixed, "operand(2, 0, 2, true), not in the word",
                 x -> x.operand(2, 0, 2, true), Check.STATE);
+    }
+
+    /** Each of 0..5 in the first and the last form: of 1 bit or 64, it is not told twice. */
+    private static void eachOneIsThereOnce(Check check) {
+        for (int form : new int[] {0, 7}) {
+            for (int k = 0; k < 6; k++) {
+                for (int n : new int[] {1, 64}) {
+                    int operand = k;
+                    check.refused(() -> Samples.single(form, operand, n, true),
+                            "operand(" + form + ", " + k + ") of " + n + " bits again",
+                            x -> x.operand(form, operand, n, true), Check.STATE);
+                    check.refused(() -> Samples.single(form, operand, n, false),
+                            "operand(" + form + ", " + k + ") of " + n + " bits anew",
+                            x -> x.operand(form, operand, 65 - n, true), Check.STATE);
+                }
+            }
+        }
     }
 }

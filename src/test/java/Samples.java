@@ -30,6 +30,18 @@ final class Samples {
         return x;
     }
 
+    /** Every form has operand 0, of 2 bits without sign, in the word or not. */
+    static SliceCoder alike(boolean whole) {
+        SliceCoder x = new SliceCoder();
+        for (int form = 0; form < 8; form++) {
+            x.operand(form, 0, 2, false);
+            if (whole) {
+                x.slice(form, 0, 1, 0);
+            }
+        }
+        return x;
+    }
+
     /** One operand of n bits, the whole word. */
     static SliceCoder single(int form, int operand, int n, boolean sign) {
         SliceCoder x = new SliceCoder();

@@ -10,9 +10,13 @@ public final class SliceTest {
         bitsThatAreNotThere(check);
         noMoreThanAWord(check);
         bitsInTheWord(check);
+        everyWidth(check);
+        everyLengthAndEveryNext(check);
+        everyPairOfSlices(check);
         check.end();
     }
 
+    /** 'The next bits are those of an OPERAND from high down to low: how many it has'. */
     private static void bitsFollowFromHighToLow(Check check) {
         SliceCoder x = new SliceCoder();
         x.operand(0, 1, 6, false);
@@ -48,6 +52,7 @@ public final class SliceTest {
         check.due("the only bit", () -> x.slice(0, 0, 0, 0), 1);
     }
 
+    /** 'IllegalArgumentException: form, there is no such OPERAND, high is below low'. */
     private static void wrongArguments(Check check) {
         for (int form : Check.WRONG_FORMS) {
             check.refused(Samples::mixed, "slice(" + form + ", 2, 0, 0)",
@@ -72,6 +77,7 @@ public final class SliceTest {
                 x -> x.slice(2, 0, 0, 1), Check.ARGUMENT);
     }
 
+    /** 'IndexOutOfBoundsException: there are no such bits ..'. */
     private static void bitsThatAreNotThere(Check check) {
         int[][] ranges = {{7, 7}, {7, 0}, {0, -1}, {-1, -1}, {4, -1}, {64, 64}, {7, 6},
             {Integer.MAX_VALUE, 0}, {Integer.MAX_VALUE, Integer.MIN_VALUE}, {0, Integer.MIN_VALUE},
@@ -84,6 +90,7 @@ public final class SliceTest {
                 x -> x.slice(7, 3, 64, 0), Check.INDEX);
     }
 
+    /** '.. or there would be more than 64'. */
     private static void noMoreThanAWord(Check check) {
         check.refused(Samples::mixed, "slice(2, 0, 0, 0) of 64 bits",
                 x -> x.slice(2, 0, 0, 0), Check.INDEX);
@@ -104,6 +111,7 @@ public final class SliceTest {
         check.due("slice(0, 0, 2, 0) of 61 bits", () -> x.slice(0, 0, 2, 0), 64);
     }
 
+    /** 'IllegalStateException: one of them is in the WORD'. */
     private static void bitsInTheWord(Check check) {
         int[][] ranges = {{6, 5}, {6, 6}, {5, 5}, {6, 0}, {5, 0}, {5, 4}};
         for (int[] range : ranges) {
@@ -120,5 +128,72 @@ public final class SliceTest {
         check.due("the same bits of another operand", () -> x.slice(1, 0, 6, 5), 6);
         check.due("the bits below", () -> x.slice(1, 2, 4, 0), 11);
         check.due("a fixed bit is of no operand", () -> x.slice(1, 0, 1, 0), 13);
+    }
+
+    /** The lowest bit and the highest are there, the one below and the one above are not. */
+    private static void everyWidth(Check check) {
+        for (int n = 1; n <= 64; n++) {
+            int width = n;
+            String name = " of " + n + " bits";
+            Supplier<SliceCoder> made = () -> {
+                SliceCoder x = new SliceCoder();
+                x.operand(0, 0, width, true);
+                return x;
+            };
+            SliceCoder all = made.get();
+            check.due("all" + name, () -> all.slice(0, 0, width - 1, 0), n);
+            SliceCoder lowest = made.get();
+            check.due("the lowest" + name, () -> lowest.slice(0, 0, 0, 0), 1);
+            SliceCoder highest = made.get();
+            check.due("the highest" + name, () -> highest.slice(0, 0, width - 1, width - 1), 1);
+            check.refused(made, "one above" + name, x -> x.slice(0, 0, width, width), Check.INDEX);
+            check.refused(made, "all and one above" + name, x -> x.slice(0, 0, width, 0), Check.INDEX);
+            check.refused(made, "one below" + name, x -> x.slice(0, 0, -1, -1), Check.INDEX);
+            check.refused(made, "all and one below" + name,
+                    x -> x.slice(0, 0, width - 1, -1), Check.INDEX);
+            check.refused(made, "high below low" + name,
+                    x -> x.slice(0, 0, -1, width - 1), Check.ARGUMENT);
+        }
+    }
+
+    /** 64 is the last length that is taken, 65 the first that is not, from wherever it is reached. */
+    private static void everyLengthAndEveryNext(Check check) {
+        for (int length = 0; length <= 64; length++) {
+            for (int n = 1; n <= 64; n++) {
+                int next = n;
+                SliceCoder x = new SliceCoder();
+                x.operand(0, 0, 64, false);
+                if (length > 0) {
+                    x.fixed(0, length, 0);
+                }
+                boolean room = length + n <= 64;
+                check.due(n + " bits of an operand after " + length, () -> x.slice(0, 0, next - 1, 0),
+                        room ? length + n : Check.INDEX);
+                check.due("bits that are not in the word then", x.count(0, 3), room ? 64 - n : 64);
+            }
+        }
+    }
+
+    /** Of an operand of 5 bits: slices that touch are taken, and those that share a bit are not. */
+    private static void everyPairOfSlices(Check check) {
+        for (int i = 0; i < 625; i++) {
+            int high = i % 5;
+            int low = i / 5 % 5;
+            int nextHigh = i / 25 % 5;
+            int nextLow = i / 125;
+            if (high < low || nextHigh < nextLow) {
+                continue;
+            }
+            boolean shared = nextLow <= high && nextHigh >= low;
+            int bits = high - low + 1;
+            SliceCoder x = new SliceCoder();
+            x.operand(0, 0, 5, false);
+            x.slice(0, 0, high, low);
+            check.due(nextHigh + " to " + nextLow + " after " + high + " to " + low,
+                    () -> x.slice(0, 0, nextHigh, nextLow),
+                    shared ? Check.STATE : bits + nextHigh - nextLow + 1);
+            check.due("bits that are not in the word then", x.count(0, 3),
+                    5 - bits - (shared ? 0 : nextHigh - nextLow + 1));
+        }
     }
 }

@@ -6,12 +6,15 @@ public final class WholeTest {
         bitByBit(check);
         eachOperandCounts(check);
         moreBitsThanAWord(check);
+        eachOneMissing(check);
+        fullWordWithoutABit(check);
         for (int form : Check.WRONG_FORMS) {
             check.refused(Samples::mixed, "whole(" + form + ")", x -> x.whole(form), Check.ARGUMENT);
         }
         check.end();
     }
 
+    /** An empty form, fixed bits alone, and a full word of them. */
     private static void withoutOperands(Check check) {
         SliceCoder x = new SliceCoder();
         check.due("no bits", x.whole(7), true);
@@ -21,6 +24,7 @@ public final class WholeTest {
         check.due("64 fixed bits alone", x.whole(7), true);
     }
 
+    /** 63 bits of 64 are the most that are not enough. */
     private static void bitByBit(Check check) {
         SliceCoder x = new SliceCoder();
         x.operand(0, 5, 64, true);
@@ -50,10 +54,40 @@ public final class WholeTest {
         check.due("another form", x.whole(2), true);
     }
 
+    /** Operands of 64 bits together can be whole, of 65 they can't. */
     private static void moreBitsThanAWord(Check check) {
         SliceCoder x = Samples.single(0, 0, 64, false);
         check.due("64 bits", x.whole(0), true);
         x.operand(0, 1, 1, false);
         check.due("65 bits", x.whole(0), false);
+    }
+
+    /** Each of the six operands can be the one that is not in the word. */
+    private static void eachOneMissing(Check check) {
+        for (int form : new int[] {0, 7}) {
+            for (int missing = 0; missing < 6; missing++) {
+                int last = missing;
+                SliceCoder x = new SliceCoder();
+                for (int k = 0; k < 6; k++) {
+                    x.operand(form, k, 1, false);
+                    if (k != missing) {
+                        x.slice(form, k, 0, 0);
+                    }
+                }
+                check.due("all but operand " + missing, x.whole(form), false);
+                check.due("the last one", () -> x.slice(form, last, 0, 0), 6);
+                check.due("all six", x.whole(form), true);
+            }
+        }
+    }
+
+    private static void fullWordWithoutABit(Check check) {
+        SliceCoder x = new SliceCoder();
+        x.operand(0, 0, 2, false);
+        x.slice(0, 0, 1, 1);
+        x.fixed(0, 63, 0);
+        check.due("a full word that lacks a bit", x.whole(0), false);
+        check.due("there is no room for it", () -> x.slice(0, 0, 0, 0), Check.INDEX);
+        check.due("nor is it whole after that", x.whole(0), false);
     }
 }
