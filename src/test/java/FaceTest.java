@@ -35,6 +35,12 @@ public final class FaceTest {
             check.due("field " + field.getName() + " is private",
                     Modifier.isPrivate(field.getModifiers()), true);
         }
+        for (Class<?> inside : c.getDeclaredClasses()) {
+            int modifiers = inside.getModifiers();
+            check.due("class " + inside.getSimpleName() + " inside is static", Modifier.isStatic(modifiers), true);
+            check.due("class " + inside.getSimpleName() + " inside is hidden",
+                    Modifier.isPublic(modifiers) || Modifier.isProtected(modifiers), false);
+        }
         check.due("private methods named as public ones", sharedNames(c), "[]");
         check.end();
     }
